@@ -1181,7 +1181,7 @@ public final class TwoWheel {
 
         /** The first fault stays: what is read behind it doesn't count. */
         private void refuse() {
-            if (!hasFault()) {
+            if (fault == NO_FAULT) {
                 fault = starts[at];
             }
         }
