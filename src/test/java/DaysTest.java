@@ -160,6 +160,29 @@ public final class DaysTest {
         Check.due("10: thrown of 1", x.of(1, 4), 3);
         Check.due("10: thrown of 2", x.of(2, 4), 3);
         Check.due("10: a pair of one throws nothing", x.now(6), 0);
+        x = eightStrangers();
+        x.pair(0, 7, 6);
+        x.pair(1, 6, 7);
+        x.pair(2, 4, 5);
+        x.pair(3, 7, 7);
+        Check.due("11: 7 and 6 throw", x.now(7), 1);
+        x.go(3);
+        int[] thrown = {0, 0, 0, 0, 1, 1, 2, 2};
+        for (int p = 0; p < 8; p++) {
+            Check.due("10: thrown of " + p, x.of(p, 4), thrown[p]);
+        }
+        Check.due("11: 7 and 7 don't", x.now(7), 0);
+        x.go(12);
+        for (int p = 0; p < 8; p++) {
+            Check.due("10: years of " + p, x.of(p, 3), 1);
+            Check.due("10: care of " + p, x.of(p, 2), 20);
+        }
+        Check.due("11: heat of all", x.now(4), 240);
+        Check.due("11: flops of all", x.now(6), 0);
+    }
+
+    private static TwoWheel eightStrangers() {
+        return Check.pottery("stranger;stranger;stranger;stranger;stranger;stranger;stranger;stranger");
     }
 
     /** Two of these throw the same ringing pot for ever. */
@@ -287,9 +310,13 @@ public final class DaysTest {
         x.go(60);
         x.go(40);
         Check.due("13: behind 100", told, x.two(0, 1, 0));
+        x = eightStrangers();
+        x.rift(6, 7, 77);
+        Check.due("13: 6 and 7", x.terms(7, 6, 3), 77);
+        Check.due("11: 6 and 7", x.now(5), 55);
         Check.beyond("13: same", x.terms(1, 1, 0));
-        Check.beyond("13: nobody", x.terms(0, 3, 0));
-        Check.beyond("13: nobody", x.terms(3, 0, 0));
+        Check.beyond("13: nobody", x.terms(0, 8, 0));
+        Check.beyond("13: nobody", x.terms(8, 0, 0));
         Check.beyond("13: a -1", x.terms(-1, 0, 0));
         Check.beyond("13: n -1", x.terms(0, 1, -1));
         Check.beyond("13: n 101", x.terms(0, 1, 101));
@@ -378,13 +405,19 @@ public final class DaysTest {
         Check.beyond("10: BEYOND is asked ahead of STATE", x.go(61));
         Check.due("10: above 99999", x.go(40), Check.STATE);
         Check.due("10: no day went by", x.now(0), 99960);
-        Check.due("10: to 99999", x.go(39), 99999);
+        Check.due("24: twenty", x.market(20), 99999);
+        x.image();
+        Check.due("10: to 99998", x.go(18), 99999);
+        Check.due("24: above 99999", x.market(2), Check.STATE);
+        Check.due("24: to 99999", x.market(1), 99999);
+        Check.due("24: day", x.now(0), 99999);
+        x.undo();
+        Check.due("10: to 99999", x.go(19), 99999);
         Check.due("10: day", x.now(0), 99999);
         Check.due("10: above 99999", x.go(1), Check.STATE);
         Check.due("24: above 99999", x.market(1), Check.STATE);
         Check.beyond("24: BEYOND is asked ahead of STATE", x.market(21));
-        Check.due("24: no draw is made", x.count(6), 1);
         Check.due("2: day, 99999 at most, is a birthday each time", x.ahead(2, 3, 10), 53 + 10);
-        Check.due("41: STATE", x.status(4), 3);
+        Check.due("41: STATE", x.status(4), 4);
     }
 }

@@ -106,6 +106,15 @@ public final class ImagesTest {
         Check.due("39: no earlier one is left", x.undo(), Check.NONE);
         x.image();
         Check.due("37: a new one", x.undo(), 2);
+        x = Check.pottery("boy;boy;boy;boy;boy;boy;boy;boy", "rift 6 7 66;rift 5 7 57");
+        x.image();
+        x.rift(6, 7, 1);
+        x.rift(5, 7, 1);
+        x.change(7, 5, 1);
+        x.undo();
+        Check.due("38: 6 and 7", x.two(6, 7, 0), 66);
+        Check.due("38: 5 and 7", x.two(7, 5, 0), 57);
+        Check.due("38: flops of 7", x.of(7, 5), 0);
     }
 
     private static void count() {

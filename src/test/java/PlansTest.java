@@ -22,6 +22,7 @@ public final class PlansTest {
         Check.due("17: the least is another one", x.setWith(0, 2, 1), 0);
         Check.due("17: another place's day", x.setWith(1, 1, 1), 0);
         Check.due("17: reached by the next day", x.setWith(1, 1, 2), 2);
+        Check.due("17: the last place", x.setWith(5, 1, 6), 2);
         Check.due("17: nothing changes", x.listed(0), 1);
         Check.due("17: nothing changes", x.now(1), 0);
         x.rift(0, 1, 26);
@@ -49,6 +50,10 @@ public final class PlansTest {
         Check.due("18: a stranger's doesn't count", x.heatFor(1, 30), 0);
         Check.due("18: nor that of one who doesn't throw", x.heatFor(2, 60), 0);
         Check.due("18: nothing changes", x.of(0, 1), 30);
+        x.pair(0, 1, 2);
+        x.change(2, 2, 0);
+        Check.due("18: a boy's", x.heatFor(2, 1), 50);
+        x.pair(0, 0, 1);
         x.clay(20);
         x.rift(0, 1, 99);
         Check.due("18: leans 17 of 99", x.heatFor(0, 1), 90);
@@ -144,6 +149,11 @@ public final class PlansTest {
         x = Check.pottery("boy care 0;boy care 0");
         Check.due("21: for a day", x.reconcile(1), 3);
         Check.due("21: two who make a new rift", x.reconcile(2), Check.NONE);
+        x = Check.pottery("potter heat 60;potter heat 60");
+        Check.due("21: for a day", x.reconcile(1), 3);
+        Check.due("21: from 0 on, 2 by the next day", x.reconcile(2), Check.NONE);
+        x.clay(9);
+        Check.due("21: that is too little with less clay", x.reconcile(2), 3);
         x = Check.pottery("potter heat 30;potter heat 41;potter heat 39", "pair 1 1 2;pair 2 0 0");
         Check.due("21: 0 and 1, or 1 and 2: the least", x.reconcile(2), 3);
         Check.due("21: and for three days", x.reconcile(3), 3);
@@ -212,6 +222,10 @@ public final class PlansTest {
             Check.sheet(x, 0, 16, flops[i]);
             Check.due("23: flop " + i, x.kinds(0, 0), boil[i]);
         }
+        x.rift(0, 1, 20);
+        Check.sheet(x, 3, 8, 30, 29);
+        Check.due("23: of the other one, the last sheet", x.kinds(3, 1), 2 + 8);
+        Check.due("23: nothing changes", x.of(1, 0), Check.STRANGER);
         Check.due("23: nothing changes", x.of(0, 0), Check.BOY);
         Check.due("23: nothing changes", x.of(0, 1), 30);
     }
@@ -260,6 +274,10 @@ public final class PlansTest {
         x.rift(0, 1, 10);
         dueOdds(x, 1, 19, 20);
         dueOdds(x, 14, 799006685782884121L, 1638400000000000000L);
+        x.rift(0, 1, 9);
+        dueOdds(x, 2, 81, 100);
+        x.rift(0, 1, 4);
+        dueOdds(x, 3, 64, 125);
         x.rift(0, 1, 0);
         dueOdds(x, 0, 1, 1);
         dueOdds(x, 1, 0, 1);

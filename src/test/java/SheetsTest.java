@@ -214,5 +214,7 @@ public final class SheetsTest {
         Check.sheet(x, 0, 16, 3, 9999, 0, 0);
         Check.due("36: the fourth is of nobody", x.judge(0), 4);
         Check.due("36: nothing changes", x.of(0, 4), 3);
+        Check.sheet(x, 3, 32, 3, 9999, 1);
+        Check.due("36: the last sheet", x.judge(3), 3);
     }
 }

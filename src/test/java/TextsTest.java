@@ -80,6 +80,10 @@ public final class TextsTest {
         Check.due("29: clay", x.clay(1), 20);
         Check.text(x, "clay 1", 1);
         Check.due("29: clay", x.clay(3), 1);
+        Check.text(x, "pair 5 7 7;pair 4 0 7;pair 3 7 0", 3);
+        Check.due("29: pair", x.listed(5), 77);
+        Check.due("29: pair", x.listed(4), 7);
+        Check.due("29: pair", x.listed(3), 70);
     }
 
     private static void itemByItem() {
@@ -127,6 +131,8 @@ public final class TextsTest {
             "boy care", "boy care 100", "boy care 1 heat 1", "boy care 1 care 1", "boy heat care 1",
             "boy years", "boy years 100", "boy years 1 care 1", "boy years 1 heat 1", "boy years 1 years 1", "boy years 1 1",
             "boy heat 1 care 2 years 3 4", "boy heat 1 care 2 years 3 ;", "boy rift 0 1 1", "boys", "bo",
+            "boy;boy;rift 1 0", "boy;boy;rift", "pair 0", "pair", "boz", "zoy", "bzy", "boyz", "boya", "boy`", "boy{",
+            "clay 1/", "clay 1:", "clay 19 9", "boy:", "aclay 1", "years", "boy heat 1 care", "boy heat 1 years", "boy;pair 0 0 8",
         };
         int[] places = {
             0, 3, 0, 1, 0, 0, 0, 0, 0, 0,
@@ -139,6 +145,8 @@ public final class TextsTest {
             8, 9, 11, 11, 9,
             9, 10, 12, 12, 12, 12,
             26, 27, 4, 0, 0,
+            16, 12, 6, 4, 0, 0, 0, 0, 0, 3, 3,
+            6, 6, 8, 3, 0, 0, 15, 16, 13,
         };
         Check.due("as many places as texts", places.length, texts.length);
         for (int i = 0; i < texts.length; i++) {
