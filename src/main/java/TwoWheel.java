@@ -36,7 +36,8 @@ public final class TwoWheel {
     private static final int[] MOST_OF_TRAIT = {LAST_KIND, 99, 99, 99, 9999, 9999};
     private static final int LAST_TRAIT = 5;
 
-    private static final int PERCENT = 99;
+    // Of heat, care, years and rifts alike.
+    private static final int MOST_LEVEL = 99;
     private static final int FIRST_HEAT = 30;
     private static final int FIRST_CARE = 20;
     private static final int FIRST_RIFT = 20;
@@ -103,7 +104,7 @@ public final class TwoWheel {
     }
 
     public int potter(int kind, int heat) {
-        if (!within(kind, 0, LAST_KIND) || !within(heat, 0, PERCENT)) {
+        if (!within(kind, 0, LAST_KIND) || !within(heat, 0, MOST_LEVEL)) {
             return found(BEYOND);
         }
         if (here.isFull()) {
@@ -130,7 +131,7 @@ public final class TwoWheel {
     }
 
     public int rift(int a, int b, int v) {
-        if (!here.hasTwo(a, b) || !within(v, 0, PERCENT)) {
+        if (!here.hasTwo(a, b) || !within(v, 0, MOST_LEVEL)) {
             return found(BEYOND);
         }
         int was = here.riftOf(a, b);
@@ -227,7 +228,7 @@ public final class TwoWheel {
     }
 
     public int peace(int a, int b, int v) {
-        if (!here.hasTwo(a, b) || !within(v, 0, PERCENT)) {
+        if (!here.hasTwo(a, b) || !within(v, 0, MOST_LEVEL)) {
             return found(BEYOND);
         }
         trial.become(here);
@@ -281,7 +282,7 @@ public final class TwoWheel {
         if (!here.has(potter) || !within(n, 0, 60)) {
             return found(BEYOND);
         }
-        return dearestTrait(OF_HEAT + potter, PERCENT, n);
+        return dearestTrait(OF_HEAT + potter, MOST_LEVEL, n);
     }
 
     public int kindFor(int potter, int n) {
@@ -335,7 +336,7 @@ public final class TwoWheel {
             return found(BEYOND);
         }
         int fitting = 0;
-        for (int rift = 0; rift <= PERCENT; rift++) {
+        for (int rift = 0; rift <= MOST_LEVEL; rift++) {
             trial.become(here);
             trial.setRift(a, b, rift);
             if (trialRiftIsTold(s, a, b)) {
@@ -512,7 +513,7 @@ public final class TwoWheel {
         int most = Math.min(sheets.sizes[s], here.potters);
         for (int i = 0; i < most; i++) {
             int care = sheets.get(s, i);
-            if (!within(care, 0, PERCENT)) {
+            if (!within(care, 0, MOST_LEVEL)) {
                 return i;
             }
             here.traits[OF_CARE + i] = care;
@@ -871,13 +872,13 @@ public final class TwoWheel {
                 stand(b);
                 sell(rises, leans);
             }
-            setRift(a, b, Math.max(0, Math.min(riftOf(a, b) + said, PERCENT)));
+            setRift(a, b, Math.max(0, Math.min(riftOf(a, b) + said, MOST_LEVEL)));
         }
 
         private void flop(int p) {
             int boils = BOILS[traits[OF_KIND + p]];
             traits[OF_FLOPS + p] = Math.min(traits[OF_FLOPS + p] + 1, MOST_POTS);
-            traits[OF_HEAT + p] = Math.min(traits[OF_HEAT + p] + boils, PERCENT);
+            traits[OF_HEAT + p] = Math.min(traits[OF_HEAT + p] + boils, MOST_LEVEL);
         }
 
         private void stand(int p) {
@@ -899,7 +900,7 @@ public final class TwoWheel {
 
         private void ageAll() {
             for (int p = 0; p < potters; p++) {
-                traits[OF_YEARS + p] = Math.min(traits[OF_YEARS + p] + 1, PERCENT);
+                traits[OF_YEARS + p] = Math.min(traits[OF_YEARS + p] + 1, MOST_LEVEL);
             }
         }
 
@@ -1127,7 +1128,7 @@ public final class TwoWheel {
                 return otherwise;
             }
             at++;
-            return readNumber(0, PERCENT);
+            return readNumber(0, MOST_LEVEL);
         }
 
         private void readRift() {
@@ -1137,7 +1138,7 @@ public final class TwoWheel {
                 refuse();
             }
             int b = readNumber(0, into.potters - 1);
-            int rift = readNumber(0, PERCENT);
+            int rift = readNumber(0, MOST_LEVEL);
             if (!hasFault()) {
                 into.setRift(a, b, rift);
             }

@@ -177,6 +177,7 @@ public final class DaysTest {
             Check.due("10: years of " + p, x.of(p, 3), 1);
             Check.due("10: care of " + p, x.of(p, 2), 20);
         }
+        Check.due("10: thrown of 0 does not age", x.of(0, 4), 4);
         Check.due("11: heat of all", x.now(4), 240);
         Check.due("11: flops of all", x.now(6), 0);
     }

@@ -190,6 +190,9 @@ public final class SheetsTest {
         Check.sheet(x, 1, 32, 1, 2, 3, 4, 100);
         Check.due("35: it ends where nobody is", x.load(1), 3);
         dueCares(x, 1, 1, 2, 3);
+        Check.sheet(x, 3, 8, 44);
+        Check.due("35: the last sheet", x.load(3), 1);
+        Check.due("35: care", x.of(0, 2), 44);
         x.sheet(2, 8, 0);
         Check.due("35: none", x.load(2), 0);
     }
