@@ -1068,16 +1068,16 @@ public final class TwoWheel {
 
         /** All is split ahead of reading; the end is a token too, which begins where the bytes end. */
         void splitTape() {
-            int found = 0;
+            int n = 0;
             for (int i = 0; i < tape.length; i++) {
                 if (tape.bytes[i] != ' ' && !goesOnAt(i)) {
-                    tokens[found] = tokenAt(i);
-                    starts[found] = i;
-                    found++;
+                    tokens[n] = tokenAt(i);
+                    starts[n] = i;
+                    n++;
                 }
             }
-            tokens[found] = END;
-            starts[found] = tape.length;
+            tokens[n] = END;
+            starts[n] = tape.length;
         }
 
         /** How many items; it means nothing if there is a fault. */
@@ -1116,7 +1116,7 @@ public final class TwoWheel {
                 refuse();
                 return;
             }
-            at++;
+            step();
             int heat = readPerhaps(HEAT_WORD, FIRST_HEAT);
             int care = readPerhaps(CARE_WORD, FIRST_CARE);
             int years = readPerhaps(YEARS_WORD, 0);
@@ -1127,12 +1127,12 @@ public final class TwoWheel {
             if (tokens[at] != FIRST_WORD - word) {
                 return otherwise;
             }
-            at++;
+            step();
             return readNumber(0, MOST_LEVEL);
         }
 
         private void readRift() {
-            at++;
+            step();
             int a = readNumber(0, into.potters - 1);
             if (tokens[at] == a) {
                 refuse();
@@ -1145,7 +1145,7 @@ public final class TwoWheel {
         }
 
         private void readPair() {
-            at++;
+            step();
             int place = readNumber(0, PLACES - 1);
             int a = readNumber(0, MOST_POTTERS - 1);
             int b = readNumber(0, MOST_POTTERS - 1);
@@ -1155,7 +1155,7 @@ public final class TwoWheel {
         }
 
         private void readClay() {
-            at++;
+            step();
             int clay = readNumber(1, MOST_CLAY);
             if (!hasFault()) {
                 into.clay = clay;
@@ -1168,7 +1168,7 @@ public final class TwoWheel {
                 refuse();
                 return least;
             }
-            at++;
+            step();
             return number;
         }
 
@@ -1177,7 +1177,14 @@ public final class TwoWheel {
                 refuse();
                 return;
             }
-            at++;
+            step();
+        }
+
+        /** None of the readers steps over the end, which is the last token: this keeps to the row all the same. */
+        private void step() {
+            if (at < MOST_BYTES) {
+                at++;
+            }
         }
 
         /** The first fault stays: what is read behind it doesn't count. */
