@@ -34,10 +34,15 @@ final class Check {
         due(call, got, BEYOND);
     }
 
-    /** Puts a text onto the tape, byte by byte. */
+    /** Puts a text onto the tape, four bytes a call, since an object is promised for 512 calls alone. */
     static void feed(TwoWheel x, String text) {
-        for (int i = 0; i < text.length(); i++) {
-            x.feed(text.charAt(i), 1);
+        for (int from = 0; from < text.length(); from += 4) {
+            int n = Math.min(4, text.length() - from);
+            int bytes = 0;
+            for (int i = from; i < from + n; i++) {
+                bytes = bytes << 8 | text.charAt(i);
+            }
+            x.feed(bytes, n);
         }
     }
 
