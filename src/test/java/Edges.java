@@ -62,6 +62,11 @@ final class Edges {
         return Check.pottery("boy;boy;boy;boy;boy;boy;boy");
     }
 
+    /** Two of these throw the same round pot for ever. */
+    static TwoWheel eightStrangers() {
+        return Check.pottery("stranger;stranger;stranger;stranger;stranger;stranger;stranger;stranger");
+    }
+
     /** One potter, with nobody to throw with. */
     static TwoWheel alone() {
         return Check.pottery("boy heat 44");

@@ -44,10 +44,6 @@ public final class EdgesDaysTest {
         return Check.pottery("stranger;stranger", "clay 20;rift 0 1 99");
     }
 
-    private static TwoWheel eightStrangers() {
-        return Check.pottery("stranger;stranger;stranger;stranger;stranger;stranger;stranger;stranger");
-    }
-
     private static void go() {
         Edges.range("10: n", Edges::busy, (x, v) -> x.go(v), 1, 60);
         Edges.range("10: n, nobody there", Edges::fresh, (x, v) -> x.go(v), 1, 60);
@@ -92,7 +88,7 @@ public final class EdgesDaysTest {
         Check.due("10: the last who is there", x.go(1), 10);
         x.pair(1, 2, 0);
         Check.due("10: as A, too", x.go(1), 20);
-        x = eightStrangers();
+        x = Edges.eightStrangers();
         x.pair(0, 7, 6);
         Check.due("10: the eighth", x.go(1), 10);
     }
@@ -345,7 +341,7 @@ public final class EdgesDaysTest {
 
     /** A birthday is of YEARS alone, from the first to the last. */
     private static void yearsOfEight() {
-        TwoWheel x = eightStrangers();
+        TwoWheel x = Edges.eightStrangers();
         for (int i = 0; i < 6; i++) {
             x.pair(i, 0, 0);
         }
@@ -387,7 +383,7 @@ public final class EdgesDaysTest {
         Edges.asked("11: one alone", Edges::alone, x -> x.now(5), -1);
         Edges.asked("11: two, who are reconciled", () -> Check.pottery("boy;boy", "rift 0 1 0"), x -> x.now(5), 1);
         Edges.asked("11: the last two of eight", Edges::full, x -> x.now(5), 8 * 6 + 7);
-        TwoWheel x = eightStrangers();
+        TwoWheel x = Edges.eightStrangers();
         Check.due("11: all alike, the least", x.now(5), 1);
         x.rift(0, 1, 19);
         Check.due("11: the least of the others", x.now(5), 2);
@@ -408,7 +404,7 @@ public final class EdgesDaysTest {
             Check.due("11: throws on DAY " + day, x.now(7), want[day]);
             x.go(1);
         }
-        x = eightStrangers();
+        x = Edges.eightStrangers();
         for (int a = 0; a < 8; a++) {
             for (int b = 0; b < 8; b++) {
                 x.pair(0, a, b);

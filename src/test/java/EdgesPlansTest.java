@@ -33,10 +33,6 @@ public final class EdgesPlansTest {
         Check.end();
     }
 
-    private static TwoWheel eightStrangers() {
-        return Check.pottery("stranger;stranger;stranger;stranger;stranger;stranger;stranger;stranger");
-    }
-
     /** On DAY 4, with nothing on THE LIST: a pot of place 3 comes ten times in sixty days, the last on the sixtieth. */
     private static TwoWheel onDay4(String potters, String more) {
         TwoWheel x = Check.pottery(NO_PAIRS, potters);
@@ -67,10 +63,10 @@ public final class EdgesPlansTest {
     }
 
     private static void setWithTheLeast() {
-        Edges.asked("17: all would do, the least", EdgesPlansTest::eightStrangers, x -> x.setWith(0, 7, 60), 0);
-        Edges.asked("17: all would do, the least other", EdgesPlansTest::eightStrangers, x -> x.setWith(0, 0, 60), 1);
+        Edges.asked("17: all would do, the least", Edges::eightStrangers, x -> x.setWith(0, 7, 60), 0);
+        Edges.asked("17: all would do, the least other", Edges::eightStrangers, x -> x.setWith(0, 0, 60), 1);
         Edges.asked("17: no DAY, the least other", Edges::busy, x -> x.setWith(3, 0, 0), 1);
-        TwoWheel x = eightStrangers();
+        TwoWheel x = Edges.eightStrangers();
         x.rift(0, 7, 22);
         Check.due("17: the last", x.setWith(0, 0, 1), 7);
         x.rift(0, 6, 22);
@@ -144,8 +140,8 @@ public final class EdgesPlansTest {
 
     private static void clayFor() {
         Edges.range("20: one of four", () -> Check.pottery("boy;boy;boy;boy"), (x, v) -> x.clayFor(v, 1), 0, 3);
-        Edges.range("20: one of eight", EdgesPlansTest::eightStrangers, (x, v) -> x.clayFor(v, 1), 0, 7);
-        Edges.range("20: n", EdgesPlansTest::eightStrangers, (x, v) -> x.clayFor(0, v), 0, 60);
+        Edges.range("20: one of eight", Edges::eightStrangers, (x, v) -> x.clayFor(v, 1), 0, 7);
+        Edges.range("20: n", Edges::eightStrangers, (x, v) -> x.clayFor(0, v), 0, 60);
         Edges.beyond("20: nobody there", Edges::fresh, x -> x.clayFor(0, 0));
     }
 
@@ -181,11 +177,11 @@ public final class EdgesPlansTest {
     }
 
     private static void reconcile() {
-        Edges.range("21: n", EdgesPlansTest::eightStrangers, (x, v) -> x.reconcile(v), 0, 20);
+        Edges.range("21: n", Edges::eightStrangers, (x, v) -> x.reconcile(v), 0, 20);
         Edges.asked("21: nobody there", Edges::fresh, x -> x.reconcile(20), 0);
         Edges.asked("21: one alone", Edges::alone, x -> x.reconcile(20), 0);
-        Edges.asked("21: no DAY", EdgesPlansTest::eightStrangers, x -> x.reconcile(0), 0);
-        Edges.asked("21: one DAY", EdgesPlansTest::eightStrangers, x -> x.reconcile(1), 3);
+        Edges.asked("21: no DAY", Edges::eightStrangers, x -> x.reconcile(0), 0);
+        Edges.asked("21: one DAY", Edges::eightStrangers, x -> x.reconcile(1), 3);
         Edges.Maker rising = () -> Check.pottery("potter heat 99;potter heat 99", "clay 10");
         Edges.asked("21: RIFT 2 makes RISES 1, one DAY", rising, x -> x.reconcile(1), 3);
         Edges.refused("21: NONE, two DAYS", rising, x -> x.reconcile(2), Check.NONE);
@@ -195,7 +191,7 @@ public final class EdgesPlansTest {
     }
 
     private static TwoWheel pairsOf(int... ab) {
-        TwoWheel x = eightStrangers();
+        TwoWheel x = Edges.eightStrangers();
         for (int i = 0; i < 6; i++) {
             x.pair(i, ab[i] / 10, ab[i] % 10);
         }
@@ -254,15 +250,19 @@ public final class EdgesPlansTest {
         return x;
     }
 
-    /** The rift is 2 less each DAY, 0 at least; forty numbers tell now and 39 DAYS. */
-    private static TwoWheel told40(int last) {
-        TwoWheel x = Check.pottery("partner;stranger", "clay 20");
-        x.sheet(2, 8, 40);
+    /** Forty numbers tell now and 39 DAYS: any but the last. */
+    private static TwoWheel tellLast(TwoWheel x, int s, int bits, int last) {
+        x.sheet(s, bits, 40);
         for (int i = 0; i < 39; i++) {
-            x.write(2, i, -1);
+            x.write(s, i, -1);
         }
-        x.write(2, 39, last);
+        x.write(s, 39, last);
         return x;
+    }
+
+    /** The rift is 2 less each DAY, 0 at least. */
+    private static TwoWheel told40(int last) {
+        return tellLast(Check.pottery("partner;stranger", "clay 20"), 2, 8, last);
     }
 
     private static void fitsOfEmptyAndFull() {
@@ -318,13 +318,7 @@ public final class EdgesPlansTest {
 
     /** Of one who throws each DAY, and never flops. */
     private static TwoWheel heats40(int last) {
-        TwoWheel x = Check.pottery("son heat 99;stranger", "clay 20;rift 0 1 99");
-        x.sheet(1, 16, 40);
-        for (int i = 0; i < 39; i++) {
-            x.write(1, i, -1);
-        }
-        x.write(1, 39, last);
-        return x;
+        return tellLast(Check.pottery("son heat 99;stranger", "clay 20;rift 0 1 99"), 1, 16, last);
     }
 
     private static void kindsOfEmptyAndFull() {
@@ -345,7 +339,7 @@ public final class EdgesPlansTest {
     private static void market() {
         Edges.range("24: n", Edges::busy, (x, v) -> x.market(v), 1, 20);
         Edges.range("24: n, nobody there", Edges::fresh, (x, v) -> x.market(v), 1, 20);
-        TwoWheel x = eightStrangers();
+        TwoWheel x = Edges.eightStrangers();
         x.market(20);
         Check.due("24: twenty DAYS", x.now(0), 20);
         x = new TwoWheel();
@@ -357,7 +351,7 @@ public final class EdgesPlansTest {
 
     /** One DAY from that z on: the PAIR, CLAY and z that are due. */
     private static void dueDrawn(int z, int pair, int clay, int then) {
-        TwoWheel x = eightStrangers();
+        TwoWheel x = Edges.eightStrangers();
         x.go(5);
         x.seed(z);
         x.market(1);
